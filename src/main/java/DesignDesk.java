@@ -69,7 +69,7 @@ public final class DesignDesk {
         book = new Book();
         draft = new Book();
         history = new History();
-        reader = new TextReader(tape);
+        reader = new TextReader();
         overlays = new Overlays();
         shapes = new Shapes();
         facts = new int[FACTS];
@@ -92,7 +92,7 @@ public final class DesignDesk {
     public int text(int n) throws IllegalArgumentException {
         needNumber(n, 0, tapeBytes);
         tapeBytes = 0;
-        Scan scan = reader.readInto(draft, n);
+        Scan scan = reader.readInto(draft, tape, n);
         faultPlace = scan.place;
         if (scan.failed()) {
             return scan.kind - 10;
@@ -586,19 +586,19 @@ public final class DesignDesk {
     private static final class Scan {
         static final int END = -1;
 
-        private final int[] bytes;
+        private int[] bytes;
         private int length;
         private int at;
         int kind;
         int place;
 
-        Scan(int[] tape) {
-            bytes = tape;
-            begin(0);
+        Scan() {
+            begin(new int[0], 0);
         }
 
-        final void begin(int newLength) {
-            length = Math.max(0, Math.min(newLength, bytes.length));
+        void begin(int[] tape, int newLength) {
+            bytes = tape;
+            length = Math.max(0, Math.min(newLength, tape.length));
             at = 0;
             kind = 0;
             place = NONE;
@@ -651,14 +651,16 @@ public final class DesignDesk {
 
         /** Says if the word that begins here is this one, and no longer. */
         boolean seesWord(String word) {
-            int size = word.length();
-            for (int i = 0; i < size; i++) {
-                if (byteAt(at + i) != word.charAt(i)) {
+            int end = at + word.length();
+            if (end > length) {
+                return false;
+            }
+            for (int i = at; i < end; i++) {
+                if (bytes[i] != word.charAt(i - at)) {
                     return false;
                 }
             }
-            int behind = byteAt(at + size);
-            return behind < 'a' || behind > 'z';
+            return end == length || bytes[end] < 'a' || bytes[end] > 'z';
         }
 
         boolean takesWord(String word) {
@@ -679,13 +681,13 @@ public final class DesignDesk {
         private final Scan scan;
         private final RuleReader rules;
 
-        TextReader(int[] tape) {
-            scan = new Scan(tape);
-            rules = new RuleReader(scan);
+        TextReader() {
+            rules = new RuleReader();
+            scan = rules.scan;
         }
 
-        Scan readInto(Book book, int length) {
-            scan.begin(length);
+        Scan readInto(Book book, int[] tape, int length) {
+            scan.begin(tape, length);
             book.count = 0;
             book.rule = null;
             // A part that is no FAULT takes some bytes, so there are fewer parts than bytes.
@@ -769,7 +771,7 @@ public final class DesignDesk {
     private static final class RuleReader {
         private static final int NOTHING = 0;
 
-        private final Scan scan;
+        final Scan scan;
         private final int[] codes;
         private int count;
         private final int[] waiting;
@@ -779,8 +781,8 @@ public final class DesignDesk {
         private boolean atStart;
         private boolean compared;
 
-        RuleReader(Scan newScan) {
-            scan = newScan;
+        RuleReader() {
+            scan = new Scan();
             codes = new int[MOST_BYTES];
             waiting = new int[MOST_WAITING];
             begin();
