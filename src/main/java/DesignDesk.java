@@ -457,20 +457,38 @@ public final class DesignDesk {
             resize(upright ? other.columns : other.rows, upright ? other.rows : other.columns);
             for (int y = 0; y < other.rows; y++) {
                 for (int x = 0; x < other.columns; x++) {
-                    int across = turn >= 4 ? other.columns - 1 - x : x;
-                    int down = y;
-                    int lastRow = other.rows - 1;
-                    int lastColumn = other.columns - 1;
-                    for (int quarter = 0; quarter < (turn & 3); quarter++) {
-                        int next = lastRow - down;
-                        down = across;
-                        across = next;
-                        int swapped = lastRow;
-                        lastRow = lastColumn;
-                        lastColumn = swapped;
-                    }
-                    put(across, down, other.sortAt(x, y));
+                    int mirrored = turn >= 4 ? other.columns - 1 - x : x;
+                    int toColumn = other.columnBehind(turn & 3, mirrored, y);
+                    int toRow = other.rowBehind(turn & 3, mirrored, y);
+                    put(toColumn, toRow, other.sortAt(x, y));
                 }
+            }
+        }
+
+        /** The column to which quarters of a turn to the right bring a CELL. */
+        private int columnBehind(int quarters, int x, int y) {
+            switch (quarters) {
+                case 0:
+                    return x;
+                case 1:
+                    return rows - 1 - y;
+                case 2:
+                    return columns - 1 - x;
+                default:
+                    return y;
+            }
+        }
+
+        private int rowBehind(int quarters, int x, int y) {
+            switch (quarters) {
+                case 0:
+                    return y;
+                case 1:
+                    return x;
+                case 2:
+                    return rows - 1 - y;
+                default:
+                    return columns - 1 - x;
             }
         }
 

@@ -73,6 +73,14 @@ public final class ActTest {
         Check.due("day of 1", desk.of(1, 0), 2);
         Check.due("day of 2", desk.of(2, 0), 3);
         Check.due("cells of 1", desk.of(1, 4), 2);
+        desk.drop(0);
+        for (int i = 0; i < 3; i++) {
+            Check.due("told behind a drop", Check.tell(desk, "design 4 #;design 5 ##;design 6 ###;"), 3);
+            for (int d = 0; d < 3; d++) {
+                Check.due("day of " + d, desk.of(d, 0), 4 + d);
+                Check.due("columns of " + d, desk.of(d, 1), 1 + d);
+            }
+        }
     }
 
     private static void undoing() {
@@ -172,5 +180,16 @@ public final class ActTest {
         Check.due("new by its day", desk.of(1, 12), 1);
         Check.tell(desk, "design 1 ##;design 2 .#;");
         Check.due("told anew", desk.best(0, 1, 1), 2);
+        Check.tell(desk, "design 1 ./#;design 2 #./#.;");
+        Check.tell(desk, "design 1 ##./.#.;design 2 .##/.#.;");
+        Check.due("by a turn", desk.best(0, 1, 2), 1);
+        desk.paint(0, 0, 0, 0);
+        desk.paint(0, 1, 0, 0);
+        desk.paint(0, 1, 1, 2);
+        Check.due("no likeness: above", desk.best(0, 1, 0), 0);
+        Check.due("no likeness: below", desk.best(0, 1, 1), 1);
+        Check.due("no likeness: turn", desk.best(0, 1, 2), 0);
+        Check.due("no likeness: dx", desk.best(0, 1, 3), -2);
+        Check.due("no likeness: dy", desk.best(0, 1, 4), -1);
     }
 }

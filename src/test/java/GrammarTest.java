@@ -114,6 +114,12 @@ public final class GrammarTest {
         bad("rule 1=1 and or 1=1;", 1, 13);
         bad("rule 1=1 andnot 1=1;", 1, 9);
         bad("rule 1 and 1=1;", 1, 7);
+        bad("rule 1=1 andz 1=1;", 1, 9);
+        bad("rule 1=1 anda 1=1;", 1, 9);
+        bad("rulez 1=1;", 1, 0);
+        bad("rule notz 1=1;", 1, 5);
+        bad("rule age{1=1;", 1, 8);
+        bad("rule age`1=1;", 1, 8);
         bad("rule 1=(1 and 1=1);", 1, 10);
         bad("rule 1=1 xor 1=1;", 1, 9);
         bad("rule not;", 1, 8);

@@ -25,6 +25,14 @@ public final class RefusalTest {
             missing += 13;
             Check.due("status(0)", desk.status(0), missing);
         }
+        for (int x : wrong) {
+            Check.missing("cell x " + x, () -> desk.cell(0, x, 0));
+            Check.missing("cell y " + x, () -> desk.cell(0, 0, x));
+            Check.missing("paint x " + x, () -> desk.paint(0, x, 0, 9));
+            Check.missing("paint y " + x, () -> desk.paint(0, 0, x, 9));
+            missing += 4;
+            Check.due("status(0)", desk.status(0), missing);
+        }
         for (int n : new int[] {Integer.MIN_VALUE, -1, 10000, Integer.MAX_VALUE}) {
             Check.number("day " + n, () -> desk.day(0, n));
             Check.number("text " + n, () -> desk.text(n));

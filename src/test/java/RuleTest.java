@@ -22,7 +22,11 @@ public final class RuleTest {
         DesignDesk desk = Check.desk("design 1 ##########;design 1 #######;design 1 ########;");
         Check.due("700 is not above", desk.infringes(0, 1), 0);
         Check.due("800 is", desk.infringes(0, 2), 1);
-        // 27 of 38 and the like: cut to 700 first
+        String four = "##########/##########/##########/##########/";
+        DesignDesk just = Check.desk("design 1 " + four + "##########/##########/#######...;design 1 " + four
+                + "#######...;");
+        Check.due("47 by 67", just.best(0, 1, 0) * 100 + just.best(0, 1, 1), 4767);
+        Check.due("701 is", just.infringes(0, 1), 1);
         DesignDesk cut = Check.desk("design 1 #########./#########.;design 1 #######/#######;");
         Check.due("777", cut.infringes(0, 1), 1);
         DesignDesk aside = Check.desk("design 1 #t;design 1 ##;");
@@ -57,6 +61,8 @@ public final class RuleTest {
 
     private static void signs() {
         holds("1<2", 1);
+        holds("5<7", 1);
+        holds("0<7", 1);
         holds("2<2", 0);
         holds("3<2", 0);
         holds("1=2", 0);
@@ -137,6 +143,9 @@ public final class RuleTest {
         Check.due("every third one", Check.desk(six + "rule age=3;").groups(), 3);
         Check.due("first and last", Check.desk(six + "rule age=5;").groups(), 5);
         Check.due("without a rule", Check.desk(six).groups(), 3);
+        DesignDesk again = Check.desk(six + "rule dark=6 and age=3 or dark=3 and age=2;");
+        Check.due("joined", again.groups(), 4);
+        Check.due("asked again", again.groups(), 4);
         Check.due("late joint", Check.desk(six + "rule dark=6 and age=5 or dark=6 and age=2 or dark=5 and age=1;")
                 .groups(), 3);
     }

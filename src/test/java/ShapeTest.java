@@ -1,5 +1,8 @@
 /** Promises 10, 11 and 18: of, cell, print. */
 public final class ShapeTest {
+    private static final String ROW = "##########/";
+    private static final String TEN = ROW + ROW + ROW + ROW + ROW + ROW + ROW + ROW + ROW + "##########";
+
     public static void main(String[] args) {
         counts();
         edges();
@@ -46,6 +49,7 @@ public final class ShapeTest {
         Check.due("forced joins solid", of("#t#", 8), 1);
         Check.due("dotted parts", of("#o#", 8), 2);
         Check.due("a way round", of("#####/#...#/#.#.#/#..../#####", 8), 2);
+        Check.due("all", of(TEN, 8), 1);
         Check.due("board", of("#.#.#.#.#./.#.#.#.#.#/#.#.#.#.#.", 8), 15);
     }
 
@@ -59,6 +63,17 @@ public final class ShapeTest {
         Check.due("at the rim", of("#.#/###", 9), 0);
         Check.due("no dark ones", of("...", 9), 0);
         Check.due("a long one", of("#####/#...#/#.#.#/#...#/#####", 9), 1);
+        Check.due("a wide one", of(TEN.replace("##########/##########/", "##########/#........#/"), 9), 4);
+        Check.due("wide ones joined", of((ROW + TEN.replace(ROW, "#........#/")).substring(0, 98)
+                + "/##########", 9), 1);
+        Check.due("one beside the rim", of(".####/##.##/#####", 9), 1);
+        Check.due("at the last row", of("###/###/#.#", 9), 0);
+        Check.due("at the last column", of("###/##./###", 9), 0);
+        Check.due("joined up and to the left",
+                of("#######/####.##/####.##/##.#.##/###.###/#######", 9), 1);
+        DesignDesk again = Check.desk("design 1 #####/#.#.#/#####;");
+        Check.due("asked", again.of(0, 8) * 10 + again.of(0, 9), 12);
+        Check.due("asked again", again.of(0, 8) * 10 + again.of(0, 9), 12);
         Check.due("out through a gap", of("#####/#...#/#.#.#/#..../#####", 9), 0);
     }
 
@@ -81,6 +96,7 @@ public final class ShapeTest {
 
     private static void freedom() {
         Check.due("free", of("#.", 11), 1000);
+        Check.due("one cell", of("#", 11), 1000);
         Check.due("bound", of("ot", 11), 0);
         Check.due("cut", of("#.o", 11), 666);
         Check.due("third", of("#to", 11), 333);
