@@ -5,16 +5,23 @@ import java.util.function.LongSupplier;
 final class Check {
     private static int wrong = 0;
     private static int asked = 0;
+    private static String sentence = "";
 
     private Check() {
     }
 
+    /** Names the part and the sentence of the document that the checks from here on are of. */
+    static void by(String part, String words) {
+        sentence = part + " \"" + words + "\": ";
+        Doc.cite(part, words);
+    }
+
+    static void byNone() {
+        sentence = "";
+    }
+
     static void due(String call, long got, long want) {
-        asked++;
-        if (got != want) {
-            wrong++;
-            System.out.println(call + " answered " + got + ", due is " + want);
-        }
+        same(call, Long.toString(got), Long.toString(want));
     }
 
     static void missing(String call, LongSupplier asking) {
@@ -26,24 +33,45 @@ final class Check {
     }
 
     static void outcome(String call, LongSupplier asking, String want) {
+        same(call, outcomeOf(asking), want);
+    }
+
+    static void same(String call, String got, String want) {
         asked++;
-        String got = outcomeOf(asking);
         if (!got.equals(want)) {
-            wrong++;
-            System.out.println(call + " answered " + got + ", due is " + want);
+            wrong(call + " answered " + got + ", due is " + want);
         }
+    }
+
+    static void wrong(String what) {
+        wrong++;
+        System.out.println(sentence + what);
     }
 
     static String outcomeOf(LongSupplier asking) {
         try {
             return Long.toString(asking.getAsLong());
-        } catch (NoSuchElementException e) {
-            return "throws.NoSuchElementException";
-        } catch (IllegalArgumentException e) {
-            return "throws." + e.getClass().getSimpleName();
         } catch (RuntimeException e) {
-            return "throws." + e.getClass().getSimpleName();
+            Class<?> kind = e.getClass();
+            boolean due = kind == NoSuchElementException.class || kind == IllegalArgumentException.class;
+            return "throws." + (due ? kind.getSimpleName() : kind.getName());
         }
+    }
+
+    /** A new object reads a text without a FAULT. */
+    static DesignDesk good(String text, int designs) {
+        DesignDesk desk = new DesignDesk();
+        due("'" + text + "'", tell(desk, text), designs);
+        due("place in '" + text + "'", desk.fault(), -1);
+        return desk;
+    }
+
+    /** A new object finds a FAULT in a text, and tells its place. */
+    static void bad(String text, int fault, int place) {
+        DesignDesk desk = new DesignDesk();
+        due("'" + text + "'", tell(desk, text), fault - 10);
+        due("place in '" + text + "'", desk.fault(), place);
+        due("designs behind '" + text + "'", desk.told(0), 0);
     }
 
     /** Feeds a text, padded with zeros, and has its bytes read. */
@@ -73,10 +101,24 @@ final class Check {
         DesignDesk desk = new DesignDesk();
         int answer = tell(desk, text);
         if (answer < 0) {
-            wrong++;
-            System.out.println("'" + text + "' answered " + answer + " at " + desk.fault());
+            wrong("'" + text + "' answered " + answer + " at " + desk.fault());
         }
         return desk;
+    }
+
+    /** All that can be asked without a change, in one line, to tell if anything changed. */
+    static String stateOf(DesignDesk desk) {
+        StringBuilder state = new StringBuilder();
+        state.append(desk.print()).append(' ').append(desk.fault()).append(' ').append(desk.groups());
+        int designs = desk.told(0);
+        for (int what = 0; what < 4; what++) {
+            state.append(' ').append(desk.told(what));
+        }
+        for (int a = 0; a < designs; a++) {
+            state.append(" | ").append(desk.of(a, 1)).append(' ').append(desk.of(a, 2)).append(' ')
+                    .append(desk.nearest(a)).append(' ').append(desk.prior(a, 2));
+        }
+        return state.toString();
     }
 
     static void end() {

@@ -34,13 +34,14 @@ public final class ModelTest {
 
     private void runCalls(int size) {
         int used = 0;
-        for (int i = 0; i < 60 && good && used < 440; i++) {
+        // an object is used for at most 512 calls; a text takes at most 47
+        for (int i = 0; i < 60 && good && used < 460; i++) {
             int kind = i == 0 ? 0 : random.nextInt(12);
             if (kind <= 1) {
                 used += tell(size);
             } else if (kind <= 5) {
                 act();
-                used++;
+                used += 2;
             } else {
                 used += ask();
             }
@@ -151,7 +152,7 @@ public final class ModelTest {
                 compare("status", () -> desk.status(few), () -> model.status(few));
                 break;
         }
-        return 3;
+        return 5;
     }
 
     private void askOver(int a, int b) {
