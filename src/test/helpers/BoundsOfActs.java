@@ -125,7 +125,15 @@ final class BoundsOfActs {
 
     /** What an ACT may change: the acts themselves are counted apart. */
     private static String states(DesignDesk desk) {
-        return desk.print() + " " + desk.told(0) + " " + desk.told(1) + " " + desk.groups();
+        StringBuilder state = new StringBuilder();
+        state.append(desk.print()).append(' ').append(desk.told(0)).append(' ').append(desk.told(1)).append(' ')
+                .append(desk.groups());
+        for (int a = 1; a < desk.told(0); a++) {
+            for (int what = 0; what < 5; what++) {
+                state.append(' ').append(desk.best(a, 0, what));
+            }
+        }
+        return state.toString();
     }
 
     private static void askedNothingChanges() {

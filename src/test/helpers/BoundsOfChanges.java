@@ -142,7 +142,12 @@ final class BoundsOfChanges {
         Check.missing("drop(0) of none", () -> all.drop(0));
         Check.due("groups of none", all.groups(), 0);
         Check.due("print of none", all.print(), 0);
-        Check.due("six told again", Check.tell(all, Texts.designs(6)), 6);
+        for (int i = 0; i < 3; i++) {
+            Check.due("six told again", Check.tell(all, Texts.designs(6)), 6);
+            for (int d = 0; d < 6; d++) {
+                Check.due("day of " + d, all.of(d, 0), d);
+            }
+        }
         // what was asked of one number is not kept for another design
         DesignDesk asked = Check.desk("design 1 ##;design 2 ..;design 3 ##;");
         Check.due("best ahead", asked.best(0, 1, 0) * 10 + asked.best(0, 2, 0), 1);

@@ -91,6 +91,9 @@ final class BoundsOfShapes {
         of(9, "#####/#.#.#/#####", 2);
         of(9, "####/#.##/##.#/####", 1);
         of(9, "####/##.#/#.##/####", 1);
+        // joined up and to the left alone, and up and to the right alone
+        of(9, "#######/####.##/####.##/##.#.##/###.###/#######", 1);
+        of(9, "#######/##.####/##.####/##.#.##/###.###/#######", 1);
         String row = "#.#.#.#.##/";
         String full = "##########/";
         of(9, full + row + full + row + full + row + full + row + full + "##########", 16);

@@ -104,6 +104,13 @@ final class BoundsOfTape {
             Check.due("and is read alone", desk.text(11), 1);
             Check.due("its day", desk.of(0, 0), 5);
         }
+        // what was asked of the designs that are gone is not kept for the new ones
+        DesignDesk asked = Check.desk(Texts.pair("##", "##"));
+        Check.due("best ahead", asked.best(0, 1, 1), 1);
+        Check.tell(asked, Texts.pair("##", "#"));
+        Check.due("best of those told anew", asked.best(0, 1, 1), 2);
+        Check.tell(asked, Texts.pair("##", ".."));
+        Check.due("not alike", asked.best(0, 1, 0), 0);
         DesignDesk small = Check.desk(Texts.design(1, Texts.grid('t', 10, 10)));
         Check.tell(small, "design 2 .;");
         Check.due("nothing of a greater one stays", small.of(0, 6) + small.of(0, 1) + small.of(0, 2), 2);

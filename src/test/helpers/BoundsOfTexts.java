@@ -106,7 +106,21 @@ final class BoundsOfTexts {
             Check.bad("rule 1=1 " + joint + " " + joint + " 1=1;", 1, 10 + joint.length());
             Check.bad("rule 1 " + joint + " 1=1;", 1, 7);
             Check.bad("rule 1=1 " + joint + " 1;", 1, 11 + joint.length());
+            for (int i = 0; i < 4; i++) {
+                int first = i / 2;
+                int second = i % 2;
+                int due = joint.equals("or") ? first | second : first & second;
+                holds("1=" + first + " " + joint + " 1=" + second, due);
+                holds("1=" + first + " " + joint + " 1=" + first + " " + joint + " 1=" + second, due);
+            }
         }
+        // "and" is within "or"
+        holds("1=1 or 1=1 and 1=2", 1);
+        holds("1=2 and 1=1 or 1=1", 1);
+    }
+
+    private static void holds(String rule, int due) {
+        Check.due("rule " + rule, Check.desk(Texts.pair("#", "#") + "rule " + rule + ";").infringes(0, 1), due);
     }
 
     private static void comparisons() {
@@ -118,6 +132,17 @@ final class BoundsOfTexts {
             Check.bad("rule 1" + sign + ";", 1, 7);
             Check.bad("rule 1" + sign + "1" + sign + "1;", 1, 8);
         }
+        int[][] due = {{1, 0, 0}, {0, 1, 0}, {0, 0, 1}};
+        for (int n = 0; n < 3; n++) {
+            for (int i = 0; i < 3; i++) {
+                String comparison = n + "<=>".substring(i, i + 1) + "1";
+                holds(comparison, due[i][n]);
+                holds("not " + comparison, 1 - due[i][n]);
+                holds("not not not not " + comparison, due[i][n]);
+            }
+        }
+        holds("not 1=1 or 1=1", 1);
+        holds("not 1=2 and 1=2", 0);
         for (String sign : new String[] {"!", "?", ";", "/", ":", "&", "|"}) {
             Check.bad("rule 1" + sign + "1;", 1, 6);
         }
@@ -132,8 +157,15 @@ final class BoundsOfTexts {
         Check.by(PART, "E: T { ( \"+\" | \"-\" ) T }.");
         sign("+");
         sign("-");
+        holds("9-3-2=4", 1);
+        holds("9-3+2=8", 1);
+        holds("9-(3+2)=4", 1);
         Check.by(PART, "T: U { \"*\" U }.");
         sign("*");
+        holds("2+3*4=14", 1);
+        holds("2*3+4=10", 1);
+        holds("2*(3+4)=14", 1);
+        holds("2*3*4=24", 1);
     }
 
     private static void sign(String sign) {
