@@ -9,6 +9,7 @@ final class BoundsOfFaults {
         leastByte();
         firstInList();
         endsTooEarly();
+        everyByte();
         signTooMany();
         rowTooMany();
         rowTooShort();
@@ -73,6 +74,33 @@ final class BoundsOfFaults {
         Check.bad("design 1 #    ", 1, 14);
         Check.bad("rule 1=1    ", 1, 12);
         Check.bad("design 1 #    x", 1, 14);
+    }
+
+    /** Each of the 256 bytes at each kind of place: the signs that can stand there, and no other. */
+    private static void everyByte() {
+        byteStands("", "", " ");
+        byteStands("design", "1 #;", " 0123456789");
+        byteStands("design 1", "#;", " 0123456789.#ot");
+        byteStands("design 1 #", ";", " .#ot");
+        byteStands("design 1 #", "#;", " .#ot/");
+        byteStands("design 1 #", "", ";");
+        byteStands("design 1 #;", "", " ");
+        byteStands("rule ", "1=1;", " 0123456789");
+        byteStands("rule 1", "1=1;", "0123456789+-*");
+        byteStands("rule 1", "1;", "<=>");
+        byteStands("rule (1", "=1;", ")");
+        byteStands("rule 1=1", ";", " 0123456789");
+        byteStands("rule 1=1", "", ";");
+    }
+
+    private static void byteStands(String ahead, String behind, String signs) {
+        for (char sign = 0; sign < 256; sign++) {
+            DesignDesk desk = new DesignDesk();
+            int answer = Check.tell(desk, ahead + sign + behind);
+            String call = "byte " + (int) sign + " between '" + ahead + "' and '" + behind + "' is good";
+            Check.due(call, answer >= 0 ? 1 : 0, signs.indexOf(sign) >= 0 ? 1 : 0);
+            Check.due(call + ", no place", desk.fault() < 0 ? 1 : 0, signs.indexOf(sign) >= 0 ? 1 : 0);
+        }
     }
 
     private static void signTooMany() {

@@ -136,12 +136,36 @@ final class BoundsOfTape {
             Check.due("groups", desk.groups(), 1);
             Check.due("refusals", desk.status(0) + desk.status(1), 0);
         }
+        nothingOfAFaultStays();
         // the last byte, when all else has been read
         DesignDesk desk = Check.desk("design 1 #;design 2 ##;");
         Check.due("a fault at the end", Check.tell(desk, "design 3 t;rule 1=1;?"), -9);
         Check.due("rule", desk.told(1), 0);
         Check.due("day", desk.of(0, 0), 1);
         Check.due("what can be taken back", desk.undo(), 0);
+    }
+
+    /** A text that ended anywhere leaves nothing behind for the next one, of its rule or its designs. */
+    private static void nothingOfAFaultStays() {
+        String spoilt = "design 9 tt/oo/tt;rule not not (9+9*(9-9))*9>9 or not 9<9+9 and 9=9*(9);design 8 to/ot;";
+        String good = "design 1 #;design 2 #;rule ";
+        for (int length = 1; length < spoilt.length(); length++) {
+            DesignDesk desk = new DesignDesk();
+            Check.feed(desk, spoilt);
+            desk.text(length);
+            String call = "behind '" + spoilt.substring(0, length) + "'";
+            Check.due(call, Check.tell(desk, good + "1=1;"), 2);
+            Check.due(call + ", a rule that holds", desk.infringes(0, 1), 1);
+            Check.due(call + ", print", desk.print(), ((31 + 1) * 31 + 2) * 31 + 1);
+            Check.feed(desk, spoilt);
+            desk.text(length);
+            Check.due(call + ", another rule", Check.tell(desk, good + "1=2 or (1)+1=3;"), 2);
+            Check.due(call + ", one that does not", desk.infringes(0, 1), 0);
+            Check.feed(desk, spoilt);
+            desk.text(length);
+            Check.due(call + ", a deep rule", Check.tell(desk, good + "not not not not 1=1 and ((((1))))=1;"), 2);
+            Check.due(call + ", it holds", desk.infringes(0, 1), 1);
+        }
     }
 
     private static void wrongLengths() {
