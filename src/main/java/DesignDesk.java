@@ -1320,7 +1320,7 @@ public final class DesignDesk {
             boolean atRim = false;
             lined = 0;
             lineUp(firstX, firstY);
-            for (int next = 0; next < lined; next++) {
+            for (int next = 0; next < lined && next < line.length; next++) {
                 int x = line[next] % MOST_SIDE;
                 int y = line[next] / MOST_SIDE;
                 atRim = atRim || x == 0 || y == 0 || x == design.columns - 1 || y == design.rows - 1;
